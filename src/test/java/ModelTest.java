@@ -2,8 +2,10 @@ import java.util.Random;
 
 /** Long runs of calls, made up by numbered seeds, answered by the class and by the model alike. */
 public final class ModelTest {
-    private static final int RUNS = 700;
+    private static final int RUNS = 1500;
     private static final int CALLS = 512;
+    /** Runs with ten SOUGHT SAYINGS and many LAWS are slow in the model: few of them. */
+    private static final int WIDE_RUNS = 12;
 
     private final Check check;
     private final Random random;
@@ -11,17 +13,23 @@ public final class ModelTest {
     private final WeightedLaws w = new WeightedLaws();
     private final Model m = new Model();
     private int left = CALLS;
+    /** One LAW in so many is HARD: with many of these all WORLDS are soon BARRED. */
+    private final int hardIn;
 
     private ModelTest(Check check, int seed) {
         this.check = check;
         this.random = new Random(seed);
         this.run = "run " + seed + ": ";
+        this.hardIn = new int[] {12, 3, 30}[seed % 3];
     }
 
     public static void main(String[] args) {
         Check check = new Check();
         for (int seed = 0; seed < RUNS && !check.hasWrong(); seed++) {
             new ModelTest(check, seed).play(seed % 4);
+        }
+        for (int seed = RUNS; seed < RUNS + WIDE_RUNS && !check.hasWrong(); seed++) {
+            new ModelTest(check, seed).playWide();
         }
         check.end();
     }
@@ -91,6 +99,29 @@ public final class ModelTest {
         }
     }
 
+    private void playWide() {
+        same("names(4)", w.names(4), m.names(4));
+        while (m.count(1) < 10) {
+            int s = below(28);
+            int how = below(4) == 0 ? 1 + below(2) : 3;
+            same("tell(" + s + ", " + how + ")", w.tell(s, how), m.tell(s, how));
+        }
+        for (int s = 0; s < 28; s++) {
+            same("tell(" + s + ", 3)", w.tell(s, 3), m.tell(s, 3));
+            same("otherwise(" + s + ", 3, 0)", w.otherwise(s, 3, 0), m.otherwise(s, 3, 0));
+        }
+        for (int i = 0; i < 8 && goesOn(); i++) {
+            playLaw();
+        }
+        for (int i = 0; i < 40 && goesOn(); i++) {
+            playWorlds();
+        }
+        same("wrong()", w.wrong(), m.wrong());
+        int bits = softBits() & 255;
+        int one = Integer.highestOneBit(bits);
+        same("learn(1000, " + one + ", 1)", w.learn(1000, one, 1), m.learn(1000, one, 1));
+    }
+
     private void playRows() {
         int r = about(6);
         int i = about(6);
@@ -136,7 +167,7 @@ public final class ModelTest {
         String variables = alone ? "x" : "xy";
         String one = "" + variables.charAt(below(variables.length()));
         String other = "" + variables.charAt(below(variables.length()));
-        String denial = below(2) == 0 ? "!" : "";
+        String denial = below(3) == 0 ? "!" : "";
         return denial + (below(4) == 0 ? "F" + one + other : "ABC".charAt(below(3)) + one);
     }
 
@@ -175,10 +206,7 @@ public final class ModelTest {
 
     private void playLaw() {
         int t = below(4);
-        int kind = below(5);
-        if (below(3) == 0) {
-            kind = 2;
-        }
+        int kind = below(hardIn) == 0 ? 1 + 3 * below(2) : new int[] {0, 2, 2, 2, 2, 3, 3}[below(7)];
         playText(t, signs(kind));
         if (below(6) == 0) {
             kind = about(5);
@@ -268,9 +296,12 @@ public final class ModelTest {
 
     /** A SAYING, more often one that is SOUGHT or SEEN. */
     private int anySaying() {
-        int s = about(28);
-        for (int i = 0; i < 5 && m.how(s) == 0; i++) {
-            s = about(28);
+        if (below(12) == 0) {
+            return about(28);
+        }
+        int s = below(28);
+        for (int i = 0; i < 12 && m.how(s) == 0; i++) {
+            s = below(28);
         }
         return s;
     }
@@ -312,9 +343,12 @@ public final class ModelTest {
     private void playWhys() {
         int s = anySaying();
         int k = about(8);
-        switch (below(12)) {
+        switch (below(13)) {
             case 0:
-                int world = about(m.worlds());
+            case 12:
+                int best = m.likeliest();
+                w.likeliest();
+                int world = below(3) == 0 || best < 0 ? about(m.worlds()) : best;
                 int bits = below(10) == 0 ? about(256) : softBits();
                 int price = about(3);
                 String call = "learn(" + world + ", " + bits + ", " + price + ")";
