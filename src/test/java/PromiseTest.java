@@ -214,6 +214,8 @@ public final class PromiseTest {
         CHECK.asked("mean of 3, 4", w, w.mean(1), 1, 3);
         fill(w, 1, -3, -4);
         CHECK.asked("mean of -3, -4 is cut", w, w.mean(1), 1, -3);
+        fill(w, 1, -8);
+        CHECK.asked("mean of one", w, w.mean(1), 1, -8);
         fill(w, 1, HIGH, HIGH, HIGH - 3);
         CHECK.asked("mean of great ints", w, w.mean(1), 1, HIGH - 1);
         fill(w, 1, LOW, LOW);
@@ -592,6 +594,10 @@ public final class PromiseTest {
         due("cost(-1)", w.cost(-1), BAD);
         w.names(4);
         CHECK.asked("cost(3) of four", w, w.cost(3), 3, 2);
+        Check.law(w, 5, "Cx", SOFT, 2);
+        CHECK.asked("cost(3) of four with one more", w, w.cost(3), 11, 2);
+        w.names(3);
+        CHECK.asked("cost(3) of three with one more", w, w.cost(3), 9, 2);
         WeightedLaws all = new WeightedLaws();
         all.names(4);
         for (int k = 0; k < 8; k++) {
@@ -803,6 +809,20 @@ public final class PromiseTest {
         CHECK.finding("draw, all are BARRED", w, w.draw(0, 1, 0), NOUGHT);
         w.tell(2, 1);
         CHECK.asked("a BARRED one is never drawn", w, w.draw(9, 200, 0), 200, 1);
+        // l = 104621: v is 469, so the limit is 0, which no SHARE of WORLD 0 is above.
+        CHECK.asked("nor at a limit of 0", w, w.draw(104621, 1, 0), 1, 1);
+        drawAtLimits();
+    }
+
+    private static void drawAtLimits() {
+        WeightedLaws w = new WeightedLaws();
+        w.tell(0, 3);
+        // l = 1619660: v is 2 to the power of 29 and 269, so the limit is just the SHARE of WORLD 0: not above.
+        CHECK.asked("the limit is reached", w, w.draw(1619660, 1, 0), 1, 1);
+        // l = 1519540229: v is the greatest.
+        CHECK.asked("the greatest limit", w, w.draw(1519540229, 1, 0), 1, 1);
+        w.tell(4, 3);
+        CHECK.asked("the greatest limit of four WORLDS", w, w.draw(1519540229, 1, 0), 1, 3);
     }
 
     // ---- 3 learning, why, acts
@@ -962,6 +982,11 @@ public final class PromiseTest {
         due("why(-1)", w.why(-1), BAD);
         Check.law(w, 7, "Ax", HARD, 2);
         CHECK.finding("NOUGHT", w, w.why(0), NOUGHT);
+        WeightedLaws all = twoSought();
+        for (int k = 0; k < 8; k++) {
+            Check.law(all, k, "Ax", SOFT, 1);
+        }
+        due("all eight LAWS", all.why(0), 255);
     }
 
     private static void promise32Otherwise() {
@@ -1054,6 +1079,12 @@ public final class PromiseTest {
         CHECK.fraction("look at B", w, w.look(0, 0, 4), 30 + 8 - 30, 13);
         CHECK.fraction("look at A itself", w, w.look(0, 0, 0), 130 - 30, 13);
         CHECK.fraction("look at what is never so", w, w.look(0, 0, 5), 0, 1);
+        w.weight(0, 0);
+        CHECK.fraction("look with another WEIGHT", w, w.look(0, 0, 0), 9, 1);
+        w.weight(0, 2);
+        w.tell(4, 2);
+        CHECK.fraction("look, told otherwise", w, w.look(0, 0, 0), 4, 1);
+        w.tell(4, 3);
         w.tell(8, 1);
         CHECK.fraction("look at what is SEEN", w, w.look(0, 0, 8), 0, 1);
         due("look(28, 0, 0)", w.look(28, 0, 0), BAD);
@@ -1081,9 +1112,11 @@ public final class PromiseTest {
         due("told as before", w.how(2), 2);
         CHECK.asked("COST as before", w, w.likeliest(), 3, 12);
         w.weight(0, 0);
+        w.weight(1, 1);
+        CHECK.asked("a fall by 1", w, w.wrong(), 2, 1);
         w.weight(1, 0);
         due("nothing falls, by WEIGHTS of 0", w.wrong(), NONE);
-        due("asked() stays", w.asked(), 12);
+        due("asked() stays", w.asked(), 1);
         wrongOfNoWorld();
     }
 
