@@ -425,24 +425,17 @@ public final class WeightedLaws {
         if (wouldSeekTooMany(saying, how)) {
             return FULL;
         }
-        int before = tellings[saying];
         surveyTold(saying, how);
-        long so = table.sharesOf(1 << other);
-        tellings[saying] = before;
-        return tellShare(so, table.allShares);
+        return tellShare(table.sharesOf(1 << other), table.allShares);
     }
 
     public int act(int saying, int r) {
         if (!isSaying(saying) || !rows.isNumber(r)) {
             return BAD;
         }
-        int finding = findingOfWorths(r);
+        int finding = surveyForActs(r);
         if (finding != NO_FINDING) {
             return found(finding);
-        }
-        survey(0);
-        if (table.isEmpty()) {
-            return found(NOUGHT);
         }
         long so = table.sharesOf(1 << saying);
         long notSo = table.allShares - so;
@@ -455,13 +448,9 @@ public final class WeightedLaws {
         if (!isSaying(saying) || !rows.isNumber(r) || !isSaying(other)) {
             return BAD;
         }
-        int finding = findingOfWorths(r);
+        int finding = surveyForActs(r);
         if (finding != NO_FINDING) {
             return found(finding);
-        }
-        survey(0);
-        if (table.isEmpty()) {
-            return found(NOUGHT);
         }
         long so = table.sharesOf(1 << saying);
         long notSo = table.allShares - so;
@@ -478,10 +467,8 @@ public final class WeightedLaws {
         int saying = NONE;
         int most = 0;
         for (int s = 0; s < SAYINGS; s++) {
-            int before = tellings[s];
-            if (before == SEEN_SO || before == SEEN_NOT_SO) {
-                surveyTold(s, before == SEEN_SO ? SEEN_NOT_SO : SEEN_SO);
-                tellings[s] = before;
+            if (tellings[s] == SEEN_SO || tellings[s] == SEEN_NOT_SO) {
+                surveyTold(s, tellings[s] == SEEN_SO ? SEEN_NOT_SO : SEEN_SO);
                 if (now - table.leastCost > most) {
                     most = now - table.leastCost;
                     saying = s;
@@ -788,11 +775,13 @@ public final class WeightedLaws {
         table.weigh(lawSlots, without);
     }
 
-    /** Surveys with a SAYING told so; who calls tells it as before, so the table is stale from here on. */
+    /** Surveys as if a SAYING were told otherwise: the table is of that until the next survey, which makes it anew. */
     private void surveyTold(int saying, int how) {
+        int before = tellings[saying];
         tellings[saying] = how;
         stale = true;
         survey(0);
+        tellings[saying] = before;
         stale = true;
     }
 
@@ -877,6 +866,15 @@ public final class WeightedLaws {
     }
 
     // ---- pairs in rows
+
+    private int surveyForActs(int r) {
+        int finding = findingOfWorths(r);
+        if (finding != NO_FINDING) {
+            return finding;
+        }
+        survey(0);
+        return table.isEmpty() ? NOUGHT : NO_FINDING;
+    }
 
     private int findingOfWorths(int r) {
         if (!rows.has(r)) {
