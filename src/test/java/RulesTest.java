@@ -52,7 +52,8 @@ public final class RulesTest {
                     signs.append(signs.charAt(signs.length() - 1) == '(' ? "" : ",").append(type);
                 }
                 got.add(signs.append(")").toString());
-                CHECK.due(method + " is public, of an object", (method.getModifiers() & ~Modifier.FINAL) == Modifier.PUBLIC);
+                boolean isPlain = (method.getModifiers() & ~Modifier.FINAL) == Modifier.PUBLIC;
+                CHECK.due(method + " is public, of an object", isPlain);
             }
         }
         CHECK.due("the methods are the document's: " + got, got.equals(want));
@@ -65,7 +66,8 @@ public final class RulesTest {
                 constants.add(field.getName());
             }
         }
-        CHECK.due("constants " + constants, constants.equals(new TreeSet<>(List.of("BAD", "FULL", "FINDING", "STATE", "NONE"))));
+        Set<String> told = new TreeSet<>(List.of("BAD", "FULL", "FINDING", "STATE", "NONE"));
+        CHECK.due("constants " + constants, constants.equals(told));
     }
 
     private static void members() {
@@ -98,11 +100,13 @@ public final class RulesTest {
 
     private static void source() throws IOException {
         String file = Files.readString(Path.of("src/main/java/WeightedLaws.java"));
-        String code = file.replaceAll("(?s)/\\*.*?\\*/", "").replaceAll("//[^\n]*", "").replaceAll("'.'|'\\\\.'", "'s'");
+        String bare = file.replaceAll("(?s)/\\*.*?\\*/", "").replaceAll("//[^\n]*", "");
+        String code = bare.replaceAll("'.'|'\\\\.'", "'s'");
         for (String word : new String[] {"throw", "throws", "try", "catch", "finally", "synchronized", "assert",
             "instanceof", "package", "System\\.out", "Exact", "Random", "nanoTime", "currentTimeMillis", "Object",
             "equals", "hashCode", "toString", "protected", "static\\s*\\{"}) {
-            CHECK.due("no " + word, !Pattern.compile("\\b" + word + (word.endsWith("{") ? "" : "\\b")).matcher(code).find());
+            String whole = "\\b" + word + (word.endsWith("{") ? "" : "\\b");
+            CHECK.due("no " + word, !Pattern.compile(whole).matcher(code).find());
         }
         CHECK.due("no lambda", !code.contains("->"));
         CHECK.due("no method reference", !code.contains("::"));
