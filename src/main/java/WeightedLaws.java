@@ -469,14 +469,15 @@ public final class WeightedLaws {
         for (int s = 0; s < SAYINGS; s++) {
             if (tellings[s] == SEEN_SO || tellings[s] == SEEN_NOT_SO) {
                 surveyTold(s, tellings[s] == SEEN_SO ? SEEN_NOT_SO : SEEN_SO);
-                if (now - table.leastCost > most) {
-                    most = now - table.leastCost;
+                int fall = fallOfCost(now, table.leastCost);
+                if (fall > most) {
+                    most = fall;
                     saying = s;
                 }
             }
         }
         if (saying != NONE) {
-            askedNumber = now == BARRED ? FALL_FROM_NO_WORLD : most;
+            askedNumber = most;
         }
         return saying;
     }
@@ -783,6 +784,14 @@ public final class WeightedLaws {
         survey(0);
         tellings[saying] = before;
         stale = true;
+    }
+
+    /** From no WORLD the COST falls by the same to any WORLD, so that such falls are alike. */
+    private static int fallOfCost(int from, int to) {
+        if (from == BARRED && to != BARRED) {
+            return FALL_FROM_NO_WORLD;
+        }
+        return from - to;
     }
 
     private boolean isUnlikelyWithout(int bits, int saying) {

@@ -603,18 +603,21 @@ final class Model {
 
     int wrong() {
         long now = leastCost();
-        long least = now;
+        long most = 0;
         int wrong = NONE;
         for (int s = 0; s < 28; s++) {
             if (how[s] != 1 && how[s] != 2) continue;
             how[s] = 3 - how[s];
-            if (leastCost() < least) {
-                least = leastCost();
+            long then = leastCost();
+            how[s] = 3 - how[s];
+            if (then == Long.MAX_VALUE) continue;
+            long fall = now == Long.MAX_VALUE ? 1000 : now - then;
+            if (fall > most) {
+                most = fall;
                 wrong = s;
             }
-            how[s] = 3 - how[s];
         }
-        if (wrong != NONE) asked = now == Long.MAX_VALUE ? 1000 : (int) (now - least);
+        if (wrong != NONE) asked = (int) most;
         return wrong;
     }
 

@@ -1132,10 +1132,42 @@ public final class PromiseTest {
         due("still no WORLD", w.likeliest(), NONE);
         due("all told as before", w.how(0) + w.how(1) + w.how(4), 3);
         Check.law(w, 1, "!Ax|Bx", SOFT, 4);
-        // Without A of 0 that of 1 costs 4; without A of 1 that of 0 costs nothing: it falls by more.
-        CHECK.asked("the one with the lesser COST", w, w.wrong(), 1, 1000);
+        // Without A of 0 that of 1 costs 4, without A of 1 that of 0 costs nothing; from no WORLD both fall by 1000.
+        CHECK.asked("alike, though the second WORLD costs less", w, w.wrong(), 0, 1000);
+        w.cost(0);
         w.tell(2, 1);
+        int before = w.asked();
         due("none of them tells a WORLD", w.wrong(), NONE);
+        due("NONE tells nothing", w.asked(), before);
+        wrongSkipsWhatTellsNoWorld();
+        wrongToDearWorld();
+    }
+
+    private static void wrongSkipsWhatTellsNoWorld() {
+        WeightedLaws w = new WeightedLaws();
+        w.tell(0, 1);
+        w.tell(4, 2);
+        w.tell(5, 1);
+        w.tell(6, 1);
+        Check.law(w, 0, "Bx", HARD, 0);
+        Check.law(w, 1, "!Cx|By", SOFT, 9);
+        CHECK.asked("the first does not help", w, w.wrong(), 4, 1000);
+        due("told as before", w.how(4), 2);
+    }
+
+    private static void wrongToDearWorld() {
+        WeightedLaws dear = new WeightedLaws();
+        dear.names(4);
+        dear.tell(0, 1);
+        dear.tell(1, 1);
+        Check.law(dear, 7, "1Ax", ONCE, 0);
+        for (int k = 0; k < 7; k++) {
+            Check.law(dear, k, "Bx|Cy", SOFT, 9);
+        }
+        CHECK.asked("a WORLD that costs more than 1000 is one nonetheless", dear, dear.wrong(), 0, 1000);
+        dear.tell(1, 0);
+        CHECK.asked("it costs so much", dear, dear.likeliest(), 0, 1008);
+        due("and a SEEN one that falls by none", dear.wrong(), NONE);
     }
 
     private static void promise36Held() {
