@@ -30,7 +30,8 @@ final class Document {
     }
 
     private void add(String heading, String body) {
-        String words = body.replaceAll("(?m)^(Ahead of the calls .*|```.*)$", "")
+        // What the whole is about, and what the interface says ahead of some calls, promises nothing by itself.
+        String words = body.replaceAll("(?m)^(Rules with weights: .*|Ahead of the calls .*|```.*)$", "")
             .replaceAll("^\\s*`[^`]*`:", "")
             .replaceAll("=+ [123] ", "")
             .replaceAll("\\s+", " ").trim();

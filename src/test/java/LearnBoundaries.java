@@ -56,6 +56,20 @@ final class LearnBoundaries {
         Boundary.barAll(w);
     }
 
+    private static void eightSoft(WeightedLaws w) {
+        Boundary.seek(w, 0);
+        for (int k = 0; k < 8; k++) {
+            Boundary.law(w, k, "Ax", SOFT, k);
+        }
+    }
+
+    private static Consumer<WeightedLaws> eightButOne(int k, String signs, int kind) {
+        return w -> {
+            eightSoft(w);
+            Boundary.law(w, k, signs, kind, 0);
+        };
+    }
+
     // ---- learn
 
     private void learn() {
@@ -140,10 +154,23 @@ final class LearnBoundaries {
                 lawsToLearn(v);
                 v.drop(2);
             }, w -> w.learn(1, 5, 0));
+            for (int k = 0; k < 8; k++) {
+                int law = k;
+                b.found(NOTHING, "LAW " + k + " alone is missing", w -> {
+                    eightSoft(w);
+                    w.drop(law);
+                }, w -> w.learn(1, 1 << law | 1 << (law + 1) % 8, 0));
+            }
         });
         b.says("UNLIKE: one that is not SOFT;", () -> {
             for (int laws : new int[] {2, 16, 32, 1 | 2, 1 | 4 | 16, 32 | 64}) {
                 b.found(UNLIKE, "learn(1, " + laws + ", 0)", LearnBoundaries::lawsToLearn, w -> w.learn(1, laws, 0));
+            }
+            for (int k = 0; k < 8; k++) {
+                int bit = 1 << k;
+                b.found(UNLIKE, "LAW " + k + " is a note", eightButOne(k, "Ax", NOTE), w -> w.learn(1, bit, 0));
+                b.found(UNLIKE, "LAW " + k + " is HARD", eightButOne(k, "!Cx", HARD), w -> w.learn(1, bit, 0));
+                b.found(UNLIKE, "LAW " + k + " is ONCE", eightButOne(k, "1Ax", ONCE), w -> w.learn(1, bit, 0));
             }
         });
         b.says("NOUGHT: all are BARRED;", () -> {
@@ -151,10 +178,19 @@ final class LearnBoundaries {
                 int of = world;
                 b.found(NOUGHT, "learn(" + world + ", 1, 0)", LearnBoundaries::lawsAllBarred, w -> w.learn(of, 1, 0));
             }
+            for (int k = 0; k < 8; k++) {
+                int other = 1 << (k + 1) % 8;
+                b.found(NOUGHT, "LAW " + k + " bars all", eightButOne(k, "Cx", HARD), w -> w.learn(1, other, 0));
+            }
         });
         b.says("STATE: the WORLD is BARRED.", () -> {
             b.state("learn(0, 1, 0)", LearnBoundaries::lawsToLearn, w -> w.learn(0, 1, 0));
             b.state("learn(2, 13, 2)", LearnBoundaries::lawsToLearn, w -> w.learn(2, 1 | 4 | 8, 2));
+            for (int k = 0; k < 8; k++) {
+                int other = 1 << (k + 1) % 8;
+                b.state("LAW " + k + " bars it", eightButOne(k, "!Ax", HARD), w -> w.learn(1, other, 0));
+                b.state("LAW " + k + " of ONCE bars it", eightButOne(k, "1Ax", ONCE), w -> w.learn(0, other, 0));
+            }
         });
         b.says("(STATE last.)", () -> {
             b.found(NOTHING, "learn(0, 128, 0)", LearnBoundaries::lawsToLearn, w -> w.learn(0, 128, 0));

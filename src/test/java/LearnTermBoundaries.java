@@ -14,8 +14,8 @@ final class LearnTermBoundaries {
     }
 
     void run() {
-        b.says("LEARNING: a told WORLD; WEIGHTS of SOFT LAWS that are told (bits; 3 at most) are each 0 .. 3 so that its "
-            + "SHARE by all SHARES is greatest,", this::learning);
+        b.says("LEARNING: a told WORLD; WEIGHTS of SOFT LAWS that are told (bits; 3 at most) are each 0 .. 3 "
+            + "so that its SHARE by all SHARES is greatest,", this::learning);
         b.says("of alike ones the least sum,", this::leastSum);
         b.says("of these the first by LAWS", this::firstByLaws);
         b.says("(others keep theirs).", this::othersKeep);
@@ -29,8 +29,8 @@ final class LearnTermBoundaries {
         b.says("WORTH of an ACT on a SAYING: a ROW of pairs (what it is worth, if that is so; if not; -99 .. 99):",
             this::worths);
         b.says("the greatest mean of pairs, the first.", this::greatestMean);
-        b.says("A LOOK at another SAYING ahead: mean of the greatest means by both that one can see, less the greatest mean "
-            + "without.", this::look);
+        b.says("A LOOK at another SAYING ahead: mean of the greatest means by both that one can see, "
+            + "less the greatest mean without.", this::look);
         b.says("WRONG: the SEEN SAYING by which, told the other way, the LIKELIEST WORLD's COST falls most",
             this::wrongFallsMost);
         b.says("(by 1 at least;", this::wrongByOne);
@@ -121,6 +121,17 @@ final class LearnTermBoundaries {
         b.told("above by 21 without it", w, w.learn(1, 8, 0), 0, 1, 1);
         w.weight(2, 1);
         b.told("above by 19 without it", w, w.learn(1, 8, 0), 2, 1, 1);
+        WeightedLaws twice = Boundary.of(v -> {
+            v.names(2);
+            Boundary.seek(v, 0);
+            Boundary.law(v, 0, "Ax|Cy", SOFT, 9);
+            Boundary.law(v, 1, "Ax", SOFT, 9);
+            Boundary.law(v, 2, "Ax", SOFT, 9);
+            Boundary.law(v, 3, "Ax", SOFT, 9);
+            Boundary.law(v, 4, "Ax", SOFT, 1);
+        });
+        // Above by 19 without both: 2 of the second LAW tell as much as 1 of the first, which has two CASES of A.
+        b.told("a lesser sum that comes later", twice, twice.learn(1, 1 | 2, 0), 10, 1, 1);
         WeightedLaws none = Boundary.of(v -> Boundary.law(v, 0, "Ax", SOFT, 9));
         b.told("of one WORLD all are alike", none, none.learn(0, 1, 0), 0, 1, 1);
     }

@@ -200,7 +200,8 @@ final class RowBoundaries {
     }
 
     private void copy() {
-        b.says("n places of a ROW, from one on, come to those of another one (perhaps itself) from one on,", this::copied);
+        b.says("n places of a ROW, from one on, come to those of another one (perhaps itself) from one on,",
+            this::copied);
         b.says("as if taken ahead: 1.", this::copiedAhead);
         b.says("BAD;", () -> {
             for (int r : NO_ROWS) {
@@ -211,7 +212,7 @@ final class RowBoundaries {
         b.says("SIZE: n below 0;", () -> {
             for (int n : new int[] {-1, LOW}) {
                 b.found(SIZE, "copy of " + n, RowBoundaries::threeAndTwo, w -> w.copy(0, 0, 5, 0, n));
-                b.found(SIZE, "copy of " + n + " places further", RowBoundaries::threeAndTwo, w -> w.copy(0, 2, 0, 1, n));
+                b.found(SIZE, "copy of " + n + " further", RowBoundaries::threeAndTwo, w -> w.copy(0, 2, 0, 1, n));
             }
         });
         b.says("NOTHING: either;", () -> {

@@ -21,27 +21,21 @@ final class TermBoundaries {
     }
 
     private void whatItIs() {
-        b.says("Rules with weights: what is likely so of people and things who are tied to each other, told by soft laws "
-            + "over who is what to whom, and hard ones that are kept; sayings seen, sought, or by default; worlds by what "
-            + "they break; the likeliest, all near ones, odds of sayings alone, together, given others; names that are "
-            + "alike; worlds drawn by their shares; weights at which a told world is likeliest, paid for; what a law pulls, "
-            + "the least laws without which an odds falls, what would be were a saying otherwise; acts by worths, what a "
-            + "look is worth; which seen saying is most likely wrong. ======== ANSWERS.", () -> {
-                WeightedLaws w = Boundary.of(TermBoundaries::allThere);
-                b.fraction("ODDS of what is SOUGHT", w, w.odds(0), 64, 65);
-            });
-        b.says("An object is used for at most 512 calls after it has been made; what later calls answer is free.", () -> {
-            WeightedLaws w = new WeightedLaws();
-            for (int call = 1; call < 512; call++) {
-                w.tear(call % 6);
-            }
-            b.is("the 512th call", w.findings(NOTHING), 511);
-            WeightedLaws full = Boundary.of(Boundary::seekTen);
-            for (int call = 11; call < 512; call++) {
-                full.why(0);
-            }
-            b.is("the 512th call, behind dear ones", full.likeliest(), 0);
-        });
+        b.says("An object is used for at most 512 calls after it has been made; what later calls answer is free.",
+            this::lastCall);
+    }
+
+    private void lastCall() {
+        WeightedLaws w = new WeightedLaws();
+        for (int call = 1; call < 512; call++) {
+            w.tear(call % 6);
+        }
+        b.is("the 512th call", w.findings(NOTHING), 511);
+        WeightedLaws full = Boundary.of(Boundary::seekTen);
+        for (int call = 11; call < 512; call++) {
+            full.why(0);
+        }
+        b.is("the 512th call, behind dear ones", full.likeliest(), 0);
     }
 
     private void terms() {
@@ -77,8 +71,8 @@ final class TermBoundaries {
     // ---- refusals
 
     private void refusals() {
-        b.says("Refused is, the first of these that fits, in this order: BAD -1 (a number that is none, or not as told),",
-            this::badAheadOfAll);
+        b.says("Refused is, the first of these that fits, in this order: "
+            + "BAD -1 (a number that is none, or not as told),", this::badAheadOfAll);
         b.says("FULL -2,", this::fullAheadOfFindings);
         b.says("STATE -4 (not now),", () -> {
             b.is("STATE", WeightedLaws.STATE, -4);

@@ -400,7 +400,8 @@ final class ToldBoundaries {
             String[] signs = {"!Ax", "!Ax", "!Ax", "#4!Ax", "1!Cx"};
             for (int kind = NOTE; kind <= ONCE; kind++) {
                 int of = kind;
-                digestIs("of KIND " + kind, ALL_MISSING, bytesOf(signs[kind]), w -> Boundary.law(w, 3, signs[of], of, 9));
+                digestIs("of KIND " + kind, ALL_MISSING, bytesOf(signs[kind]),
+                    w -> Boundary.law(w, 3, signs[of], of, 9));
             }
         });
         b.says("of each ROW its size (-1: missing) and places,", this::digestOfRows);

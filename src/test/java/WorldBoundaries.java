@@ -87,6 +87,11 @@ final class WorldBoundaries {
                 Boundary.law(v, 0, "!Ax", SOFT, 9);
             });
             b.is("of the last of 1024", many.cost(1023), 27);
+            Boundary.law(many, 1, "#4Ax", COUNT, 5);
+            Boundary.law(many, 2, "#1Ax", COUNT, 4);
+            Boundary.law(many, 3, "1Ax", ONCE, 0);
+            b.asked("of the last of 1024, COUNT and ONCE, too", many, many.cost(1023), 27 + 5, 1);
+            b.asked("of the first of 1024, COUNT and ONCE, too", many, many.cost(0), 5 + 4, 1);
         });
         b.says("how many CASES of HARD ones it breaks by asked().", () -> {
             WeightedLaws w = Boundary.of(v -> {
@@ -342,6 +347,9 @@ final class WorldBoundaries {
                 }
             }
             b.is("what is SEEN so", Boundary.of(v -> v.tell(0, 1)).draw(3, 200, 0), 200);
+            for (int s = 0; s < 28; s++) {
+                drawnOf(s);
+            }
             b.is("of no name", new WeightedLaws().draw(3, 200, 27), 0);
         });
         b.says("the last WORLD by asked().", () -> {
@@ -364,6 +372,25 @@ final class WorldBoundaries {
                 b.found(NOUGHT, "draw(1, " + n + ", 0)", WorldBoundaries::twoSoughtAllBarred, w -> w.draw(1, n, 0));
             }
         });
+    }
+
+    /** A SAYING that is SEEN so is so in each WORLD, a SOUGHT one in those of its bit. */
+    private void drawnOf(int saying) {
+        WeightedLaws seen = Boundary.of(v -> {
+            v.names(4);
+            v.tell(saying, 1);
+        });
+        b.is("what is SEEN so, " + saying, seen.draw(3, 7, saying), 7);
+        WeightedLaws sought = Boundary.of(v -> {
+            v.names(4);
+            v.tell(saying, 3);
+        });
+        int so = 0;
+        for (int i = 1; i <= 7; i++) {
+            so += drawn(3, i, WHOLE, WHOLE);
+        }
+        b.is("what is SOUGHT, " + saying, sought.draw(3, 7, saying), so);
+        b.is("what is BY DEFAULT", sought.draw(3, 7, (saying + 1) % 28), 0);
     }
 
     private void drawnFrom(int l, int n) {

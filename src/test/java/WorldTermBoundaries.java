@@ -22,10 +22,13 @@ final class WorldTermBoundaries {
         b.says("HARD and SOFT break a CASE in which no part holds.", this::noPartHolds);
         b.says("COUNT breaks one CASE, if fewer names (as x) than told hold its part;", this::countBreaks);
         b.says("ONCE one, if not just one name does.", this::onceBreaks);
-        b.says("COST of a WORLD: of SOFT ones (COUNT, too) WEIGHT times the CASES that they break, together.", this::cost);
+        b.says("COST of a WORLD: of SOFT ones (COUNT, too) WEIGHT times the CASES that they break, together.",
+            this::cost);
         b.says("It is BARRED, if a HARD one (ONCE, too) breaks a CASE.", this::barred);
-        b.says("LIKELIEST is the WORLD with the least COST that is not BARRED, the least of alike ones.", this::likeliest);
-        b.says("SHARE of a WORLD: 2 to the power of (20 less what its COST is above the LIKELIEST one's);", this::shares);
+        b.says("LIKELIEST is the WORLD with the least COST that is not BARRED, the least of alike ones.",
+            this::likeliest);
+        b.says("SHARE of a WORLD: 2 to the power of (20 less what its COST is above the LIKELIEST one's);",
+            this::shares);
         b.says("nought, if it is above that by more than 20, or it is BARRED.", this::noShare);
         b.says("ODDS of what is asked: SHARES of WORLDS in which it is so by all SHARES.", this::odds);
         b.says("(NOUGHT: all are BARRED.)", this::nought);
@@ -33,8 +36,8 @@ final class WorldTermBoundaries {
             this::alike);
         b.says("DRAWN are WORLDS: l = l times 1103515245 and 12345 (an int that wraps) twice;", this::drawnByWraps);
         b.says("v = (the first one's bits 16 and on, 15 of them) times 32768 and the second one's;", this::drawnByBits);
-        b.says("the WORLD at which SHARES added up (by numbers) are first above v times all SHARES by 2 to the power of 30, "
-            + "cut.", this::drawnAtLimits);
+        b.says("the WORLD at which SHARES added up (by numbers) are first above "
+            + "v times all SHARES by 2 to the power of 30, cut.", this::drawnAtLimits);
     }
 
     // ---- worlds
@@ -383,10 +386,18 @@ final class WorldTermBoundaries {
     }
 
     private void drawnByBits() {
-        for (int v : new int[] {0, 1 << 20, (1 << 20) - 1, 1 << 29, (1 << 29) - 1, HIGHEST, HIGHEST - (1 << 20), 0x2aaaaaaa}) {
+        int unit = 1 << 20;
+        for (int v : new int[] {0, unit - 1, unit, (1 << 29) - 1, 1 << 29, HIGHEST - unit, HIGHEST, 0x2aaaaaaa}) {
             // 1024 SHARES that are alike are 2 to the power of 30 together: v is the limit itself.
             drawnIs("1024 alike", Boundary::seekTen, v, v >> 20);
         }
+        // Two thirds of 2 to the power of 30 are 715827882 and two thirds: the last bit of v tells.
+        Consumer<WeightedLaws> three = w -> {
+            Boundary.seek(w, 0, 4);
+            Boundary.law(w, 0, "!Ax|!Bx", HARD, 0);
+        };
+        drawnIs("three alike, just not reached", three, 715827882, 1);
+        drawnIs("three alike, reached by the last bit", three, 715827883, 2);
     }
 
     private void drawnAtLimits() {
