@@ -83,6 +83,7 @@ final class TermBoundaries {
             b.is("FINDING", WeightedLaws.FINDING, -3);
             b.found(NOTHING, "tear(5)", TermBoundaries::allThere, w -> w.tear(5));
             b.found(SIZE, "row(5, -1)", TermBoundaries::allThere, w -> w.row(5, -1));
+            findingsInOrder();
         });
         b.says("unless a call says so otherwise.", () -> {
             b.found(NOTHING, "law(0, 0, 1, 0): STATE behind NOTHING", TermBoundaries::allThere,
@@ -149,6 +150,39 @@ final class TermBoundaries {
             Boundary.barAll(w);
         }, w -> w.otherwise(10, 3, 0));
         b.full("tell(10, 3)", Boundary::seekTen, w -> w.tell(10, 3));
+    }
+
+    /** Where more than one FINDING fits a call, it is the one that its promise tells first. */
+    private void findingsInOrder() {
+        Consumer<WeightedLaws> start = TermBoundaries::allThereAllBarred;
+        b.found(SIZE, "copy: SIZE ahead of NOTHING, from", start, w -> w.copy(5, 0, 0, 0, -1));
+        b.found(SIZE, "copy: SIZE ahead of NOTHING, to", start, w -> w.copy(0, 0, 5, 0, -1));
+        b.found(SIZE, "copy: SIZE ahead of BEYOND", start, w -> w.copy(0, 9, 1, -1, -1));
+        b.found(NOTHING, "copy: NOTHING ahead of BEYOND, from", start, w -> w.copy(5, 0, 0, 9, 1));
+        b.found(NOTHING, "copy: NOTHING ahead of BEYOND, to", start, w -> w.copy(0, 9, 5, 0, 1));
+        b.found(NOTHING, "learn: NOTHING ahead of UNLIKE", start, w -> w.learn(0, 2 | 64, 0));
+        b.found(NOTHING, "learn: NOTHING ahead of NOUGHT", start, w -> w.learn(0, 64, 0));
+        b.found(UNLIKE, "learn: UNLIKE ahead of NOUGHT", start, w -> w.learn(0, 2, 0));
+        b.found(NOTHING, "pull: NOTHING ahead of NOUGHT", start, w -> w.pull(6, 0));
+        b.found(NOTHING, "act: NOTHING ahead of NOUGHT", start, w -> w.act(0, 5));
+        b.found(NOTHING, "look: NOTHING ahead of NOUGHT", start, w -> w.look(0, 5, 1));
+        Consumer<WeightedLaws> odd = withRow(start, 100, 11, 2);
+        b.found(SIZE, "act: SIZE ahead of UNLIKE, NOUGHT", odd, w -> w.act(0, 0));
+        b.found(SIZE, "look: SIZE ahead of UNLIKE, NOUGHT", odd, w -> w.look(0, 0, 1));
+        b.found(SIZE, "held: SIZE ahead of UNLIKE", odd, w -> w.held(0, 0));
+        Consumer<WeightedLaws> empty = withRow(start);
+        b.found(SIZE, "act: SIZE ahead of NOUGHT, no pairs", empty, w -> w.act(0, 0));
+        b.found(SIZE, "look: SIZE ahead of NOUGHT, no pairs", empty, w -> w.look(0, 0, 1));
+        Consumer<WeightedLaws> unlike = withRow(start, 1, 2, 3, -100);
+        b.found(UNLIKE, "act: UNLIKE ahead of NOUGHT", unlike, w -> w.act(0, 0));
+        b.found(UNLIKE, "look: UNLIKE ahead of NOUGHT", unlike, w -> w.look(0, 0, 1));
+    }
+
+    private static Consumer<WeightedLaws> withRow(Consumer<WeightedLaws> start, int... ints) {
+        return w -> {
+            start.accept(w);
+            Boundary.fill(w, 0, ints);
+        };
     }
 
     private void refusedByEachCall() {
