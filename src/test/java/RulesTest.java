@@ -1,6 +1,5 @@
 import java.io.IOException;
 import java.lang.management.ManagementFactory;
-import java.lang.reflect.Constructor;
 import java.lang.reflect.Field;
 import java.lang.reflect.Method;
 import java.lang.reflect.Modifier;
@@ -13,28 +12,19 @@ import java.util.List;
 import java.util.Map;
 import java.util.Random;
 import java.util.Set;
-import java.util.TreeSet;
 import java.util.regex.Matcher;
 import java.util.regex.Pattern;
 
-/** What LANGUAGE.md asks of the file, and that no call throws or makes objects. Run from the project's folder. */
+/**
+ * What LANGUAGE.md asks of the file (of its face: FaceTest), and that no call throws or makes objects.
+ * Run from the project's folder.
+ */
 public final class RulesTest {
     private static final Check CHECK = new Check();
     private static final int[] EDGES = {Integer.MIN_VALUE, -1000, -2, -1, 0, 1, 2, 3, 4, 5, 6, 7, 8, 9, 10, 11, 27, 28,
         39, 40, 41, 255, 256, 1023, 1024, Integer.MAX_VALUE};
 
-    private static final String[] FACE = {"int row(int,int)", "int lay(int,int,int)", "int at(int,int)",
-        "int tear(int)", "int copy(int,int,int,int,int)", "int mean(int)", "int text(int,int)", "int put(int,int,int)",
-        "int names(int)", "int tell(int,int)", "int how(int)", "int fault(int,int)", "int law(int,int,int,int)",
-        "int drop(int)", "int weight(int,int)", "int told(int,int)", "int mark(int,int)", "int worlds()",
-        "int cost(int)", "int broken(int,int)", "int likeliest()", "int near(int)", "int odds(int)",
-        "int both(int,int)", "int given(int,int)", "int alike(int,int)", "int draw(int,int,int)",
-        "int learn(int,int,int)", "int pull(int,int)", "int why(int)", "int otherwise(int,int,int)",
-        "int act(int,int)", "int look(int,int,int)", "int wrong()", "int held(int,int)", "int asked()",
-        "long upper()", "long lower()", "int count(int)", "int finding()", "int findings(int)", "long digest()"};
-
     public static void main(String[] args) throws Exception {
-        face();
         members();
         source();
         neverThrows();
@@ -42,38 +32,10 @@ public final class RulesTest {
         CHECK.end();
     }
 
-    private static void face() {
-        Set<String> want = new TreeSet<>(List.of(FACE));
-        Set<String> got = new TreeSet<>();
-        for (Method method : WeightedLaws.class.getDeclaredMethods()) {
-            if (!Modifier.isPrivate(method.getModifiers())) {
-                StringBuilder signs = new StringBuilder(method.getReturnType() + " " + method.getName() + "(");
-                for (Class<?> type : method.getParameterTypes()) {
-                    signs.append(signs.charAt(signs.length() - 1) == '(' ? "" : ",").append(type);
-                }
-                got.add(signs.append(")").toString());
-                boolean isPlain = (method.getModifiers() & ~Modifier.FINAL) == Modifier.PUBLIC;
-                CHECK.due(method + " is public, of an object", isPlain);
-            }
-        }
-        CHECK.due("the methods are the document's: " + got, got.equals(want));
-        CHECK.due("public and final", WeightedLaws.class.getModifiers() == (Modifier.PUBLIC | Modifier.FINAL));
-        Constructor<?>[] constructors = WeightedLaws.class.getDeclaredConstructors();
-        CHECK.due("one constructor", constructors.length == 1 && Modifier.isPublic(constructors[0].getModifiers()));
-        Set<String> constants = new TreeSet<>();
-        for (Field field : WeightedLaws.class.getDeclaredFields()) {
-            if (!Modifier.isPrivate(field.getModifiers())) {
-                constants.add(field.getName());
-            }
-        }
-        Set<String> told = new TreeSet<>(List.of("BAD", "FULL", "FINDING", "STATE", "NONE"));
-        CHECK.due("constants " + constants, constants.equals(told));
-    }
-
-    private static void members() {
+    private static void members() throws IOException {
         Set<String> face = new HashSet<>();
-        for (String signs : FACE) {
-            face.add(signs.substring(signs.indexOf(' ') + 1, signs.indexOf('(')));
+        for (String head : new Face().heads) {
+            face.add(Face.nameOf(head));
         }
         List<Class<?>> all = new ArrayList<>(List.of(WeightedLaws.class.getDeclaredClasses()));
         CHECK.due("at most twelve classes", all.size() < 12);
